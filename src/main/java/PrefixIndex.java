@@ -928,23 +928,17 @@ public final class PrefixIndex {
                 return false;
             }
             kinds[i] = kind;
-            int top = (1 << bits) - 1;
             if (kind == PLAN) {
-                return parsePlan(i);
+                boolean stands = parseNumber(i, 0, LEAST_BITS, MOST_BITS) && parseNumber(i, 1, LEAST_SIZE, MOST_SIZE);
+                // The clauses behind a plan have their bounds from it.
+                bits = stands ? numberOf(i, 0) : bits;
+                return stands;
             }
+            int top = (1 << bits) - 1;
             if (kind == FILL) {
                 return parseNumber(i, 0, 0, top) && parseNumber(i, 1, 1, MOST_STEP) && parseNumber(i, 2, 1, MOST_KEYS);
             }
             return parseNumber(i, 0, 0, top);
-        }
-
-        private boolean parsePlan(int i) {
-            if (!parseNumber(i, 0, LEAST_BITS, MOST_BITS) || !parseNumber(i, 1, LEAST_SIZE, MOST_SIZE)) {
-                return false;
-            }
-            // The clauses behind it have their bounds from this plan.
-            bits = numberOf(i, 0);
-            return true;
         }
 
         private int clauseKind() {
@@ -984,7 +978,7 @@ public final class PrefixIndex {
 
         private void nextToken() {
             tokenStart = endOfRun(place, BLANK);
-            token = kindAt(tokenStart);
+            token = kindOf(letterAt(tokenStart));
             if (token == WORD || token == NUMBER) {
                 place = endOfRun(tokenStart, token);
             } else {
@@ -994,7 +988,7 @@ public final class PrefixIndex {
 
         private int endOfRun(int start, int kind) {
             int at = start;
-            while (at < length && kindAt(at) == kind) {
+            while (at < length && kindOf(letterAt(at)) == kind) {
                 at++;
             }
             return at;
@@ -1016,8 +1010,7 @@ public final class PrefixIndex {
             return i >= 0 && i < length && i < letters.length ? letters[i] : NONE;
         }
 
-        private int kindAt(int i) {
-            int letter = letterAt(i);
+        private static int kindOf(int letter) {
             if (letter == NONE) {
                 return END;
             }
