@@ -664,7 +664,7 @@ public final class PrefixIndex {
         }
 
         boolean isBeginning(int l, int p) {
-            return marksBehind(l, p) > marksAhead(l, p);
+            return beginningOf(markAt(marksAhead(l, p)), l) == p;
         }
 
         int beginnings(int l) {

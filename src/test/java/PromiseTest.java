@@ -167,6 +167,9 @@ public final class PromiseTest {
         faultIs(x, "put 1", 0);
         faultIs(x, "ad 1", 0);
         faultIs(x, "adds 1", 0);
+        faultIs(x, "addz 1", 0);
+        faultIs(x, "odd 1", 0);
+        faultIs(x, "adb 1", 0);
         faultIs(x, "Add 1", 0);
         faultIs(x, "aDD 1", 0);
         faultIs(x, "7", 0);
@@ -625,7 +628,10 @@ public final class PromiseTest {
         due.is("bucket(0, 2)", x.bucket(0, 2), NONE);
         due.is("bucket(0, 3)", x.bucket(0, 3), NONE);
         due.is("bucket(0, 0)", x.bucket(0, 0), 0);
-        told(x, "fill 10 10 9;del 40");
+        x.add(7);
+        due.is("bucket(0, 2)", x.bucket(0, 2), 7);
+        due.is("bucket(0, 3)", x.bucket(0, 3), 7);
+        told(x, "del 7;fill 10 10 9;del 40");
         due.is("bucket(0, 0)", x.bucket(0, 0), 3);
         due.is("bucket(0, 1)", x.bucket(0, 1), 40);
         due.is("bucket(0, 2)", x.bucket(0, 2), 10);
@@ -729,6 +735,16 @@ public final class PromiseTest {
         due.is("sweep(0, 7, -1)", x.sweep(0, 7, -1), OUTSIDE);
         keysAre(x, 1, 2, 3, 4, 5, 6, 7, 8, 9, 12);
         countsAre(x, 8, 2, 10, 2, 17, 1, 0, 0, 0, 0);
+        // What the index has split and joined before does not count: 4 5 6, 7 8 9 12.
+        told(x, "del 1;del 2;del 3");
+        countsAre(x, 8, 2, 7, 2, 17, 2, 1);
+        sweepIs(x, 0, 5, 1, 0, 1);
+        sweepIs(x, 0, 4, 2, 0, 0);
+        // Bits and size of the index hold in the sweep too: 0 to 5, 6 to 12, joined at two keys.
+        told(x, "plan 5 3;fill 0 1 13");
+        sweepIs(x, 0, 2, 2, 0, 0);
+        sweepIs(x, 0, 3, 1, 0, 1);
+        due.is("sweep(0, 32, 0)", x.sweep(0, 32, 0), OUTSIDE);
     }
 
     private static void floodIs(PrefixIndex x, int a, int d, int n, int... want) {
@@ -743,6 +759,7 @@ public final class PromiseTest {
         floodIs(x, 0, 1, 9, 2, 1, 9);
         floodIs(x, 255, 999, 96, 1, 0, 1);
         floodIs(x, 0, 2, 96, 23, 22, 96);
+        floodIs(x, 9, 1, 1, 1, 0, 1);
         told(x, "fill 1 1 9");
         floodIs(x, 1, 1, 9, 2, 0, 9);
         floodIs(x, 1, 1, 13, 3, 1, 13);
@@ -758,6 +775,9 @@ public final class PromiseTest {
         due.is("flood(0, MIN, 1, 0)", x.flood(0, MIN, 1, 0), OUTSIDE);
         countsAre(x, 8, 2, 9, 2, 17, 1, 0, 0, 0, 0);
         marksAre(x, 4, 255);
+        told(x, "plan 5 3");
+        floodIs(x, 20, 1, 96, 1, 0, 12);
+        floodIs(x, 19, 1, 96, 2, 1, 13);
     }
 
     private static void promise22() {
@@ -816,6 +836,27 @@ public final class PromiseTest {
         due.is("spread(-1, 9)", x.spread(-1, 9), UNKNOWN);
         due.is("spread(3, 2)", x.spread(3, 2), OUTSIDE);
         due.is("spread(3, -1)", x.spread(3, -1), OUTSIDE);
+        // Marks 00000100, 00001000, 10000010 and 11111111: behind 1 both bits go on, behind 0 a 1 does not.
+        told(x, "plan 8 2;fill 1 1 9;fill 128 1 8");
+        marksAre(x, 4, 8, 130, 255);
+        due.is("spread(0, 0)", x.spread(0, 0), NONE);
+        due.is("spread(1, 0)", x.spread(1, 0), 127);
+        due.is("spread(1, 1)", x.spread(1, 1), 64);
+        due.is("spread(2, 0)", x.spread(2, 0), 223);
+        due.is("spread(2, 1)", x.spread(2, 1), 96);
+        // Marks 0100, 1010 and 1111: the first one alone has a beginning of 1 bit that lacks one of 2.
+        told(x, "plan 4 2;fill 1 1 4;fill 8 1 8;add 5");
+        marksAre(x, 4, 10, 15);
+        due.is("spread(1, 0)", x.spread(1, 0), 3);
+        due.is("spread(1, 1)", x.spread(1, 1), 4);
+        // Marks 0011, 0111 and 1111.
+        told(x, "plan 4 2;fill 0 1 16");
+        marksAre(x, 3, 7, 15);
+        due.is("spread(1, 0)", x.spread(1, 0), 11);
+        due.is("spread(1, 1)", x.spread(1, 1), 4);
+        due.is("spread(2, 0)", x.spread(2, 0), 13);
+        due.is("spread(2, 1)", x.spread(2, 1), 6);
+        due.is("spread(4, 1)", x.spread(4, 1), 3);
     }
 
     private static void promise25() {
