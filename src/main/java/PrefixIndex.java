@@ -854,7 +854,7 @@ public final class PrefixIndex {
         private static final int END = 0, BLANK = 1, WORD = 2, NUMBER = 3, SIGN = 4;
         private static final int PLAN = 0, ADD = 1, DEL = 2, FILL = 3;
 
-        private final char[] letters = new char[MOST_LETTERS];
+        private final int[] letters = new int[MOST_LETTERS];
         private final int[] kinds = new int[MOST_CLAUSES];
         private final int[] numbers = new int[MOST_CLAUSES * CLAUSE_NUMBERS];
         private int length;
@@ -868,7 +868,7 @@ public final class PrefixIndex {
             if (length < 0 || length >= letters.length) {
                 return false;
             }
-            letters[length] = (char) letter;
+            letters[length] = letter;
             length++;
             return true;
         }
