@@ -116,7 +116,8 @@ public final class TextBoundaryTest {
         fault(part, "del -1", 4);
         for (int b = 4; b <= 16; b++) {
             int top = (1 << b) - 1;
-            run("promise 4: TOP of the BITS there are now: " + b).told("plan " + b + " 2").type("add " + top).due("fault() = NONE; erase() = %d",
+            run("promise 4: TOP of the BITS there are now: " + b).told("plan " + b + " 2").type("add " + top)
+                .due("fault() = NONE; erase() = %d",
                     4 + ("" + top).length()).type("del " + (top + 1)).due("fault() = 4; erase() = %d", 4 + ("" + (top + 1)).length())
                 .type("fill " + top + " 1 1").due("fault() = NONE; erase() = %d", 9 + ("" + top).length())
                 .type("fill " + (top + 1) + " 1 1").due("fault() = 5; read() = NOT");
@@ -208,8 +209,16 @@ public final class TextBoundaryTest {
         fault(number, "add 1 1", 6);
         fault(number, "plan 8 2 2", 9);
         fault(number, "fill 0 1 1 1", 11);
-        fault("promise 4: words alone are told by all their letters", "aad 1", 0);
-        fault("promise 4: words alone are told by all their letters", "dez 1", 0);
+        String whole = "promise 4: a word is told by all its letters, a to z";
+        fault(whole, "odd 1", 0);
+        fault(whole, "aad 1", 0);
+        fault(whole, "adz 1", 0);
+        fault(whole, "addz 1", 0);
+        fault(whole, "adda 1", 0);
+        fault(whole, "bel 1", 0);
+        fault(whole, "clan 8 2", 0);
+        fault(whole, "till 0 1 1", 0);
+        fault(whole, "zadd 1", 0);
     }
 
     private static void signs() {
@@ -313,7 +322,8 @@ public final class TextBoundaryTest {
 
     private static void faultChangesNothing() {
         run("promise 4: fault() changes nothing").told("fill 0 1 9").due("add(99) = 10; keep(1) = 10; row(0, 2) = 2; work(0, 1, 1, 4) = 1")
-            .type("plan 4 3;fill 0 1 9;del 3").due("fault() = NONE; COUNTS = 8 2 10 2 17 1 0 2 1 25; asked() = -4; undo() = 0; back(1) = 10")
+            .type("plan 4 3;fill 0 1 9;del 3")
+            .due("fault() = NONE; COUNTS = 8 2 10 2 17 1 0 2 1 25; asked() = -4; undo() = 0; back(1) = 10")
             .due("fault() = NONE; read() = 3; COUNTS = 4 3 8 1 5 0 0 2 0 0");
         run("promise 4: fault() does not count CLAUSES for read()").type("add 1;add 2").due("fault() = NONE; read() = 2");
     }
@@ -357,22 +367,26 @@ public final class TextBoundaryTest {
     private static void planBeginsAnew() {
         run("promise 5: plan, all else as at first").told("fill 0 1 9;del 0;del 1;del 2").due("COUNTS = 8 2 6 1 9 1 1").told("plan 7 4")
             .due("COUNTS = 7 4 0 1 8 0 0 0 0 0; MARKS = 127; SIZES = 0; has(5) = 0; ranked(0) = UNKNOWN");
-        run("promise 5: plan, the same BITS and SIZE again").told("fill 0 1 20").told("plan 8 2").due("COUNTS = 8 2 0 1 9 0 0 0 0 0; MARKS = 255");
+        run("promise 5: plan, the same BITS and SIZE again").told("fill 0 1 20").told("plan 8 2")
+            .due("COUNTS = 8 2 0 1 9 0 0 0 0 0; MARKS = 255");
         run("promise 5: of several plans the last").told("plan 16 5;plan 4 2;add 15").due("COUNTS = 4 2 1 1 5 0 0; MARKS = 15; KEYS = 15");
     }
 
     private static void addByText() {
         run("promise 5: add, if it is not there").told("add 4;add 4").due("KEYS = 4").told("add 4").due("KEYS = 4; SIZES = 1");
         run("promise 5: add, if there are fewer than 96: the 96th").told("fill 0 2 95;add 1").due("count(2) = 96; has(1) = 1");
-        run("promise 5: add, if there are fewer than 96: the 97th").told("fill 0 2 96;add 1").due("count(2) = 96; has(1) = 0; count(5) = 22");
+        run("promise 5: add, if there are fewer than 96: the 97th").told("fill 0 2 96;add 1")
+            .due("count(2) = 96; has(1) = 0; count(5) = 22");
         run("promise 5: add, 96 and it is there").told("fill 0 2 96;add 2").due("count(2) = 96; has(2) = 1");
-        run("promise 5: add splits as add() does").told("fill 0 1 8").due("SIZES = 8").told("add 8").due("SIZES = 4 5; MARKS = 3 255; count(5) = 1");
+        run("promise 5: add splits as add() does").told("fill 0 1 8").due("SIZES = 8").told("add 8")
+            .due("SIZES = 4 5; MARKS = 3 255; count(5) = 1");
         run("promise 5: add, 0 and TOP").told("add 0;add 255").due("KEYS = 0 255");
     }
 
     private static void delByText() {
         run("promise 5: del, if it is there").told("del 4;add 4;del 3;del 5").due("KEYS = 4").told("del 4;del 4").due("count(2) = 0");
-        run("promise 5: del joins as remove() does").told("fill 0 1 9;del 0;del 1").due("SIZES = 2 5").told("del 2").due("SIZES = 6; MARKS = 255; count(6) = 1");
+        run("promise 5: del joins as remove() does").told("fill 0 1 9;del 0;del 1").due("SIZES = 2 5").told("del 2")
+            .due("SIZES = 6; MARKS = 255; count(6) = 1");
         run("promise 5: del of a MARK that is no KEY").told("fill 0 1 9;del 3;del 3").due("MARKS = 3 255; SIZES = 3 5");
         run("promise 5: del, 0 and TOP").told("add 0;add 255;add 7;del 0;del 255").due("KEYS = 7");
     }
@@ -384,7 +398,8 @@ public final class TextBoundaryTest {
         run("promise 5: fill, those that are not above TOP: TOP is").told("fill 251 2 96").due("KEYS = 251 253 255");
         run("promise 5: fill, those that are not above TOP: TOP and 1 is not").told("fill 252 2 96").due("KEYS = 252 254");
         run("promise 5: fill, A is TOP").told("fill 255 999 96").due("KEYS = 255");
-        run("promise 5: fill, the farthest there is").told("plan 16 5;fill 65535 999 96").due("KEYS = 65535").told("plan 16 5;fill 0 999 96")
+        run("promise 5: fill, the farthest there is").told("plan 16 5;fill 65535 999 96").due("KEYS = 65535")
+            .told("plan 16 5;fill 0 999 96")
             .due("count(2) = 66; ranked(65) = 64935");
         run("promise 5: fill, likewise: if it is not there").told("add 2;add 4;fill 0 1 6").due("KEYS = 0 1 2 3 4 5");
         run("promise 5: fill, likewise: if there are fewer than 96").told("fill 100 1 90;fill 0 1 50")
@@ -395,13 +410,15 @@ public final class TextBoundaryTest {
 
     private static void order() {
         run("promise 5: CLAUSES are done in their order").told("add 1;del 1;add 2").due("KEYS = 2").told("del 2;add 2").due("KEYS = 2");
-        run("promise 5: in their order, at 96").told("fill 0 2 96;add 1;del 0;add 3;add 5").due("count(2) = 96; has(1) = 0; has(3) = 1; has(5) = 0");
+        run("promise 5: in their order, at 96").told("fill 0 2 96;add 1;del 0;add 3;add 5")
+            .due("count(2) = 96; has(1) = 0; has(3) = 1; has(5) = 0");
         run("promise 5: in their order, keys ahead of a plan are gone").told("add 1;plan 8 2;add 2").due("KEYS = 2");
         run("promise 5: fill puts in the first one first").told("fill 0 1 9;fill 100 1 5").due("MARKS = 3 7 255; SIZES = 4 4 6");
     }
 
     private static void earlierTexts() {
-        run("promise 5: what earlier texts told stays, as it is now").told("plan 9 3;add 5;add 511").due("add(6) = 3; remove(5) = 2").told("add 7")
+        run("promise 5: what earlier texts told stays, as it is now").told("plan 9 3;add 5;add 511").due("add(6) = 3; remove(5) = 2")
+            .told("add 7")
             .due("KEYS = 6 7 511; COUNTS = 9 3 3 1 10");
         run("promise 5: as it is now: undone, gone back").told("add 5").due("keep(0) = 1; add(6) = 2; add(7) = 3; undo() = 1").told("add 8")
             .due("KEYS = 5 6 8; keep(1) = 3; add(9) = 4; back(1) = 3").told("add 10").due("KEYS = 5 6 8 10");
