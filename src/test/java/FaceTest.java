@@ -2,11 +2,15 @@ import java.lang.reflect.Constructor;
 import java.lang.reflect.Field;
 import java.lang.reflect.Method;
 import java.lang.reflect.Modifier;
+import java.nio.file.Files;
+import java.nio.file.Path;
 import java.util.HashSet;
 import java.util.Set;
 import java.util.TreeSet;
+import java.util.regex.Matcher;
+import java.util.regex.Pattern;
 
-/** The public face, by reflection: all of the document's, and nothing beside it. */
+/** The public face, by reflection: all of the document's, and nothing beside it. Run from the project's folder. */
 public final class FaceTest {
     private static final String[] METHODS = {
         "int write(int)", "int erase()", "int fault()", "int read()", "int add(int)", "int remove(int)", "int undo()",
@@ -20,6 +24,7 @@ public final class FaceTest {
     public static void main(String[] args) throws Exception {
         Class<?> face = PrefixIndex.class;
         due.holds("public and final", face.getModifiers() == (Modifier.PUBLIC | Modifier.FINAL));
+        document();
         constants();
         methods(face);
         constructors(face);
@@ -28,6 +33,29 @@ public final class FaceTest {
         }
         due.holds("twelve classes at most", face.getDeclaredClasses().length < 12);
         due.end();
+    }
+
+    /** The document's own lines, so that this test's lists and the class's words for what is given are the document's. */
+    private static void document() throws Exception {
+        String document = Files.readString(Path.of("../shared/DOC.md"));
+        String source = Files.readString(Path.of("src/main/java/PrefixIndex.java"));
+        Set<String> told = new TreeSet<>();
+        Matcher m = Pattern.compile("(?m)^    public ((?:int|long) \\w+\\(.*?\\));$").matcher(document);
+        while (m.find()) {
+            told.add(m.group(1).replaceAll("int \\w+(?=[,)])", "int").replace(", ", ","));
+            due.holds("the class has " + m.group(1), source.contains("\n    public " + m.group(1) + " {\n"));
+        }
+        due.holds("the document's methods are " + told, told.equals(new TreeSet<>(Set.of(METHODS))));
+        Matcher constants = Pattern.compile("(?m)^    public static final int (.*);$").matcher(document);
+        due.holds("the document tells constants", constants.find());
+        String[] all = constants.group(1).split(", ");
+        due.is("constants", all.length, 9);
+        for (String constant : all) {
+            String[] sides = constant.split(" = ");
+            due.is(sides[0], PrefixIndex.class.getField(sides[0]).getInt(null), Integer.parseInt(sides[1]));
+        }
+        due.holds("the class's line is the document's", source.contains("\n" + constants.group() + "\n"));
+        due.holds("the document tells the constructor", document.contains("\n    public PrefixIndex();\n"));
     }
 
     private static void constants() throws Exception {

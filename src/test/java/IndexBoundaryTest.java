@@ -22,6 +22,7 @@ public final class IndexBoundaryTest {
             joinedAndSplit(s);
             onlyOne(s);
         }
+        mostBuckets();
         removeBounds();
         lastMarkIsTop();
         undoEight();
@@ -214,6 +215,26 @@ public final class IndexBoundaryTest {
         Run joined = run("promise 7: it is the only one behind a join: s " + s).told("plan 8 " + s + ";fill 0 2 " + (4 * s + 1));
         takeOut(joined, 0, 4 * s + 1);
         joined.due("COUNTS = 8 %d 0 1 9 1 1; MARKS = 255; SIZES = 0", s);
+    }
+
+    /** A SPLIT needs nine KEYS in one BUCKET and two in each of the others: with 96 KEYS the 44th is the last, 43 times 2 and 9. */
+    private static void mostBuckets() {
+        Run run = run("promise 6: the most BUCKETS that 96 KEYS can lie in: 45").told("plan 10 2;fill 0 1 5");
+        for (int i = 0; i < 44; i++) {
+            for (int key = 4 * i + 5; key <= 4 * i + 8; key++) {
+                due.holds("add(" + key + ")", run.answer("add(" + key + ")") > 0);
+            }
+            due.holds("two of the four are taken out", run.answer("remove(" + (4 * i + 2) + ")") > 0 && run.answer("remove(" + (4 * i + 3) + ")") > 0);
+        }
+        run.due("add(1000) = 94; add(1001) = 95; add(1023) = 96; add(999) = FULL; COUNTS = 10 2 96 45; count(5) = 44; count(6) = 0; level(10) = 45");
+        for (int i = 0; i < 44; i++) {
+            run.due("bucket(%1$d, 1) = %2$d; bucket(%1$d, 0) = 2", i, 4 * i + 3);
+        }
+        // Each BUCKET is JOINED as it comes to one KEY; the last one, of eight, is SPLIT then, and JOINED once more.
+        run.due("bucket(44, 0) = 8; bucket(44, 1) = 1023; bucket(45, 0) = UNKNOWN; search(172, 4) = 43; search(176, 4) = 44")
+            .due("sweep(0, 1023, 0) = 1; sweep(0, 1023, 1) = 1; sweep(0, 1023, 2) = 45; spread(10, 1) = 45; keep(1) = 96")
+            .due("remove(0) = 95; count(3) = 44; bucket(43, 1) = 1023; bucket(0, 1) = 7; undo() = 7; count(3) = 45; bucket(0, 1) = 3")
+            .due("remove(1023) = 95; back(1) = 96; count(3) = 45; bucket(43, 1) = 175; bucket(44, 1) = 1023; has(1023) = 1");
     }
 
     private static void removeBounds() {

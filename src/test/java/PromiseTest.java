@@ -208,6 +208,7 @@ public final class PromiseTest {
         faultIs(x, "plan 16 6", 8);
         faultIs(x, "plan 16 1", 8);
         faultIs(x, "plan 17 9", 5);
+        x = fresh("4 fault, numbers of fill and of plans ahead");
         faultIs(x, "fill 255 999 96", NONE);
         faultIs(x, "fill 256 999 96", 5);
         faultIs(x, "fill 0 1000 1", 7);
@@ -247,14 +248,13 @@ public final class PromiseTest {
     }
 
     private static void promise4Most() {
-        PrefixIndex x = fresh("4 fault, 24 clauses");
         String most = "add 1" + ";add 1".repeat(23);
-        faultIs(x, most, NONE);
-        faultIs(x, most + "  ", NONE);
-        faultIs(x, most + ";add 1", 143);
-        faultIs(x, most + " ;", 144);
-        faultIs(x, most + " add", 144);
-        due.is("read() of 24", told(x, most), 24);
+        faultIs(fresh("4 fault, 24 clauses"), most, NONE);
+        faultIs(fresh("4 fault, 24 clauses and blanks"), most + "  ", NONE);
+        faultIs(fresh("4 fault, 25 clauses"), most + ";add 1", 143);
+        faultIs(fresh("4 fault, 24 clauses and ;"), most + " ;", 144);
+        faultIs(fresh("4 fault, 24 clauses and a word"), most + " add", 144);
+        due.is("read() of 24", told(fresh("5 read, 24 clauses"), most), 24);
     }
 
     private static void promise5() {

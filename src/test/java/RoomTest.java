@@ -3,7 +3,8 @@ import java.lang.management.ManagementFactory;
 
 /**
  * All calls of a run live in one room, so calls must make nothing: whatever is
- * needed is made with the object. Also, no call may throw, whatever it is given.
+ * needed is made with the object. Also, no call may throw, whatever it is given;
+ * so an object is called far more often here than its answers are promised for.
  */
 public final class RoomTest {
     private static final int[] ODD = {0, 1, -1, 2, 3, 4, 5, 7, 8, 9, 12, 13, 15, 16, 17, 31, 32, 33, 63, 64, 96, 97, 200, 255, 256,

@@ -18,6 +18,7 @@ public final class RowBoundaryTest {
         bits();
         sumRefused();
         sumOver();
+        sumTurned();
         load();
         loadFewer();
         drop();
@@ -211,6 +212,14 @@ public final class RowBoundaryTest {
         big(run("promise 29: the first one first: the great one last, OVER"), 2, true, "set(0, 0, -1) = 1; set(0, 1, 2) = 1; sum(0) = OVER");
         big(run("promise 29: the first one first: below"), 0, false, "set(0, 1, -1) = 1; set(0, 2, 1) = 1; sum(0) = OVER; set(0, 1, 1) = 1; set(0, 2, -1) = 1; sum(0) = 3; asked() = LEAST");
         big(run("promise 29: OVER changes nothing"), 1, true, "set(0, 2, 7) = 1; sum(0) = OVER; work(0, 2, 0, 0) = 1; asked() = 7; work(0, 1, 0, 0) = 1; asked() = MOST; count(7) = 3");
+    }
+
+    /** Two thirds of 2 to the 63 twice: a sum whose 64 bits are all other ones than both places' bits. */
+    private static void sumTurned() {
+        run("promise 29: OVER, though each of the 64 bits is turned")
+            .due("row(0, 2) = 2; set(0, 0, 14002645) = 1; work(0, 0, 2, 65537) = 1; work(0, 0, 2, 6700417) = 1; asked() = 6148914691236517205")
+            .due("set(0, 1, 14002645) = 1; work(0, 1, 2, 65537) = 1; work(0, 1, 2, 6700417) = 1; sum(0) = OVER; asked() = 6148914691236517205")
+            .due("work(0, 1, 2, -1) = 1; sum(0) = 2; asked() = 0");
     }
 
     private static void load() {
